@@ -1,0 +1,197 @@
+import java.util.ArrayList;
+import java.util.List;
+import java.util.Random;
+
+/** The bend and the plans of random buildings, against trying all spans and another reckoning. */
+public final class BendTest {
+    private static final Due DUE = new Due("BendTest");
+    private static final int[] TAKEN = {3, 1, 5, 1, 4};
+
+    private final Random random;
+    private final List<Job> jobs = new ArrayList<>();
+    private final BarnBench bench = new BarnBench();
+    private String name;
+
+    private BendTest(long seed) {
+        random = new Random(seed);
+    }
+
+    public static void main(String[] args) {
+        for (int seed = 0; seed < 400; seed++) {
+            BendTest test = new BendTest(seed);
+            test.build("small " + seed, 1 + seed % 5, 4, 6);
+            test.compareWithTrial();
+        }
+        for (int seed = 0; seed < 60; seed++) {
+            BendTest test = new BendTest(1000 + seed);
+            test.build("parts " + seed, 1 + seed % 3, 3, 6);
+            test.compareParts();
+        }
+        for (int seed = 0; seed < 150; seed++) {
+            BendTest test = new BendTest(2000 + seed);
+            int most = seed % 3 == 0 ? 9 : seed % 3 == 1 ? 1000 : 100000;
+            test.build("large " + seed, 8 + seed % 5, seed % 2 == 0 ? 12 : 60, most);
+            test.compareWithReckoning();
+        }
+        DUE.end();
+    }
+
+    private void build(String newName, int count, int mostSpan, int mostPrice) {
+        name = newName;
+        bench.board(0, 64, 5);
+        for (int i = 0; i < count; i++) {
+            int kind = random.nextInt(10) < 4 ? 2 : random.nextInt(5);
+            int e = random.nextInt(mostSpan + 1);
+            long[] all = {e, random.nextInt(e + 1), random.nextInt(mostPrice + 1),
+                kind == 2 ? random.nextInt(mostSpan + 1) : random.nextInt(mostPrice + 1),
+                random.nextInt(mostPrice + 1)};
+            for (int k = 0; k < 5; k++) {
+                bench.put(0, k, all[k]);
+            }
+            DUE.due(name + " task", bench.task(kind, 0, 0), i);
+            jobs.add(new Job(kind, java.util.Arrays.copyOf(all, TAKEN[kind])));
+        }
+        int chance = 1 + random.nextInt(5);
+        int[] shuffled = new int[count];
+        for (int i = 0; i < count; i++) {
+            int j = random.nextInt(i + 1);
+            shuffled[i] = shuffled[j];
+            shuffled[j] = i;
+        }
+        for (int i = 0; i < count; i++) {
+            for (int j = 0; j < i; j++) {
+                if (random.nextInt(6) < chance) {
+                    bench.after(shuffled[i], shuffled[j]);
+                    jobs.get(shuffled[i]).before |= 1 << shuffled[j];
+                }
+            }
+        }
+    }
+
+    private void compareWithTrial() {
+        for (int t = -1; t <= bench.longest(false) + 2; t++) {
+            Trial trial = new Trial(jobs, t);
+            Reckoning other = new Reckoning(jobs, t);
+            DUE.due(name + " the two ways agree at " + t, trial.cost, other.isShort ? 0 : other.cost);
+            compare(t, trial.isShort, trial.cost, trial.begins, trial.ends);
+            if (!trial.isShort) {
+                compareHurried(t, trial.begins, trial.ends);
+            }
+        }
+        compareBends();
+    }
+
+    private void compareWithReckoning() {
+        int least = bench.longest(true);
+        int most = bench.longest(false);
+        compare(least - 1, true, 0, null, null);
+        for (int t = least; t <= most + 1; t += t < most - 40 && random.nextInt(3) > 0 ? 17 : 1) {
+            Reckoning due = new Reckoning(jobs, t);
+            compare(t, due.isShort, due.cost, due.begins, due.ends);
+        }
+        compareBends();
+    }
+
+    private void compare(int t, boolean isShort, long cost, int[] begins, int[] ends) {
+        String at = name + " at " + t + ": ";
+        if (isShort) {
+            DUE.due(at + "cheapest", bench.cheapest(t, 1), -8);
+            DUE.due(at + "plan", bench.plan(t), -8);
+            DUE.due(at + "slope", bench.slope(t), -8);
+            return;
+        }
+        DUE.due(at + "cheapest", bench.cheapest(t, 1), cost);
+        int length = 0;
+        for (int end : ends) {
+            length = Math.max(length, end);
+        }
+        DUE.due(at + "plan", bench.plan(t), length);
+        DUE.due(at + "cost", bench.cost(), cost);
+        long sum = 0;
+        for (int i = 0; i < begins.length; i++) {
+            DUE.due(at + "begin of " + i, bench.planned(i, false), begins[i]);
+            DUE.due(at + "span of " + i, bench.planned(i, true), ends[i] - begins[i]);
+            sum += jobs.get(i).cost(ends[i] - begins[i]);
+            bench.tell(begins[i]);
+            bench.tell(ends[i] - begins[i]);
+        }
+        DUE.due(at + "sum of costs", sum, cost);
+        DUE.due(at + "check", bench.check(t), 0);
+    }
+
+    private void compareHurried(int t, int[] begins, int[] ends) {
+        Trial next = new Trial(jobs, t + 1);
+        int lower = 0;
+        int greater = 0;
+        for (int i = 0; i < begins.length; i++) {
+            int change = next.ends[i] - next.begins[i] - (ends[i] - begins[i]);
+            lower |= change > 0 ? 1 << i : 0;
+            greater |= change < 0 ? 1 << i : 0;
+        }
+        DUE.due(name + " hurried at " + t, bench.hurried(t, false), lower);
+        DUE.due(name + " eased at " + t, bench.hurried(t, true), greater);
+    }
+
+    /** Slopes, bends and within() by what the document says of them, from cheapest() alone. */
+    private void compareBends() {
+        int least = bench.longest(true);
+        int most = bench.longest(false);
+        int found = 0;
+        for (int t = least; t <= most + 1; t++) {
+            long on = bench.cheapest(t, 1) - bench.cheapest(t + 1, 1);
+            long off = t > least ? bench.cheapest(t - 1, 1) - bench.cheapest(t, 1) : -1;
+            DUE.due(name + " slope at " + t, bench.slope(t), on);
+            if (on != off) {
+                DUE.due(name + " bend " + found, bench.bend(found), t);
+                found++;
+            }
+        }
+        DUE.due(name + " bends", bench.bends(), found);
+        DUE.due(name + " bend behind all", bench.bend(found), -7);
+        long floor = bench.cheapest(most, 1);
+        long top = bench.cheapest(least, 1);
+        DUE.due(name + " within below all", bench.within(floor - 1), -7);
+        for (int tries = 0; tries < 20; tries++) {
+            long sum = floor + (tries == 0 ? 0 : tries == 1 ? top - floor
+                : (long) (random.nextDouble() * (top - floor + 3)));
+            compareWithin(sum, least);
+        }
+    }
+
+    private void compareWithin(long sum, int least) {
+        int t = least;
+        while (bench.cheapest(t, 1) > sum) {
+            t++;
+        }
+        long above = t;
+        long divisor = 1;
+        if (t > least) {
+            divisor = bench.slope(t - 1);
+            above = t * divisor - (sum - bench.cheapest(t, 1));
+            long common = java.math.BigInteger.valueOf(above)
+                .gcd(java.math.BigInteger.valueOf(divisor)).longValue();
+            above /= common;
+            divisor /= common;
+        }
+        DUE.due(name + " within " + sum, bench.within(sum), above);
+        DUE.due(name + " told(1) of within " + sum, bench.told(1), divisor);
+    }
+
+    /** Spans of d times the size make whole lengths of parts: d times CHEAPEST(n / d). */
+    private void compareParts() {
+        for (int d = 2; d <= 3; d++) {
+            List<Job> larger = new ArrayList<>();
+            for (Job job : jobs) {
+                long[] all = {job.e * d, job.h * d, job.p, job.kind == 2 ? job.extra * d : job.extra, job.m};
+                Job copy = new Job(job.kind, java.util.Arrays.copyOf(all, TAKEN[job.kind]));
+                copy.before = job.before;
+                larger.add(copy);
+            }
+            for (int n = -1; n <= d * bench.longest(false) + 2; n++) {
+                Trial trial = new Trial(larger, n);
+                DUE.due(name + " cheapest(" + n + ", " + d + ")", bench.cheapest(n, d),
+                    trial.isShort ? -8 : trial.cost);
+            }
+        }
+    }
+}
