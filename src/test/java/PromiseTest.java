@@ -408,6 +408,11 @@ public final class PromiseTest {
         due("rent as price: one bend", x.bends(), 1);
         due("rent as price: cost", x.cheapest(3, 1), 45);
         x = new BarnBench();
+        add(x, 4, 9, 3, 5, 8);
+        due("rent above price: one bend", x.bends(), 1);
+        due("rent above price: cost", x.cheapest(9, 1), 30 + 24);
+        due("rent above price: plan", x.plan(9), 3);
+        x = new BarnBench();
         add(x, 2, 9, 3, 0, 2, 4);
         due("steps alone: bends", x.bends(), 2);
         due("steps alone: bend", x.bend(1), 7);
@@ -580,6 +585,7 @@ public final class PromiseTest {
         due("far wrong numbers", checkOf(x, 9, 4, 2, 0, 3, MOST, MOST), 100);
         due("far wrong numbers", checkOf(x, 9, 4, 2, 0, 3, LEAST, LEAST), 102);
         due("one that is missing asks nothing", checkOf(x, 9, 0, 2, 0, 3), 102);
+        checkOf(x, 9, 0, 0, 0, 0, MOST, MOST);
         due("nor does half of one", checkOf(x, 9, 0, 2, 0, 3, 5), 102);
     }
 
@@ -636,6 +642,7 @@ public final class PromiseTest {
         x.plan(12);
         x.tell(1);
         add(x, 1, 1);
+        x.plan(12);
         due("back", x.back(), 3);
         due("tasks", x.told(2), 3);
         due("pairs", x.told(3), 2);
