@@ -6,10 +6,15 @@ import java.util.Random;
 public final class BendTest {
     private static final Due DUE = new Due("BendTest");
     private static final int[] TAKEN = {3, 1, 5, 1, 4};
+    private static final int MOST_CALLS = 512;
+    /** cheapest(), plan(), cost() and check(), and for twelve tasks planned() and tell() of each number. */
+    private static final int CALLS_OF_COMPARE = 4 + 24 + 24;
 
     private final Random random;
     private final List<Job> jobs = new ArrayList<>();
-    private final BarnBench bench = new BarnBench();
+    private BarnBench bench;
+    /** What is answered behind the 512th call of an object is free. */
+    private int used;
     private String name;
 
     private BendTest(long seed) {
@@ -38,17 +43,12 @@ public final class BendTest {
 
     private void build(String newName, int count, int mostSpan, int mostPrice) {
         name = newName;
-        bench.board(0, 64, 5);
         for (int i = 0; i < count; i++) {
             int kind = random.nextInt(10) < 4 ? 2 : random.nextInt(5);
             int e = random.nextInt(mostSpan + 1);
             long[] all = {e, random.nextInt(e + 1), random.nextInt(mostPrice + 1),
                 kind == 2 ? random.nextInt(mostSpan + 1) : random.nextInt(mostPrice + 1),
                 random.nextInt(mostPrice + 1)};
-            for (int k = 0; k < 5; k++) {
-                bench.put(0, k, all[k]);
-            }
-            DUE.due(name + " task", bench.task(kind, 0, 0), i);
             jobs.add(new Job(kind, java.util.Arrays.copyOf(all, TAKEN[kind])));
         }
         int chance = 1 + random.nextInt(5);
@@ -61,15 +61,50 @@ public final class BendTest {
         for (int i = 0; i < count; i++) {
             for (int j = 0; j < i; j++) {
                 if (random.nextInt(6) < chance) {
-                    bench.after(shuffled[i], shuffled[j]);
                     jobs.get(shuffled[i]).before |= 1 << shuffled[j];
                 }
             }
         }
     }
 
+    /** The object, or one made like it if that has not so many calls left. */
+    private BarnBench on(int calls) {
+        if (bench == null || used + calls > MOST_CALLS) {
+            makeBench();
+        }
+        used += calls;
+        return bench;
+    }
+
+    private void makeBench() {
+        bench = new BarnBench();
+        bench.board(0, 64, 5);
+        used = 1;
+        for (int i = 0; i < jobs.size(); i++) {
+            Job job = jobs.get(i);
+            long[] all = {job.e, job.h, job.p, job.extra, job.m};
+            for (int k = 0; k < 5; k++) {
+                bench.put(0, k, all[k]);
+            }
+            DUE.due(name + " task", bench.task(job.kind, 0, 0), i);
+            used += 6;
+        }
+        for (int i = 0; i < jobs.size(); i++) {
+            for (int j = 0; j < jobs.size(); j++) {
+                if (jobs.get(i).follows(j)) {
+                    bench.after(i, j);
+                    used++;
+                }
+            }
+        }
+    }
+
+    private int longest() {
+        return on(1).longest(false);
+    }
+
     private void compareWithTrial() {
-        for (int t = -1; t <= bench.longest(false) + 2; t++) {
+        for (int t = -1; t <= longest() + 2; t++) {
             Trial trial = new Trial(jobs, t);
             Reckoning other = new Reckoning(jobs, t);
             DUE.due(name + " the two ways agree at " + t, trial.cost, other.isShort ? 0 : other.cost);
@@ -82,8 +117,8 @@ public final class BendTest {
     }
 
     private void compareWithReckoning() {
-        int least = bench.longest(true);
-        int most = bench.longest(false);
+        int least = on(1).longest(true);
+        int most = longest();
         compare(least - 1, true, 0, null, null);
         for (int t = least; t <= most + 1; t += t < most - 40 && random.nextInt(3) > 0 ? 17 : 1) {
             Reckoning due = new Reckoning(jobs, t);
@@ -94,29 +129,30 @@ public final class BendTest {
 
     private void compare(int t, boolean isShort, long cost, int[] begins, int[] ends) {
         String at = name + " at " + t + ": ";
+        BarnBench x = on(CALLS_OF_COMPARE);
         if (isShort) {
-            DUE.due(at + "cheapest", bench.cheapest(t, 1), -8);
-            DUE.due(at + "plan", bench.plan(t), -8);
-            DUE.due(at + "slope", bench.slope(t), -8);
+            DUE.due(at + "cheapest", x.cheapest(t, 1), -8);
+            DUE.due(at + "plan", x.plan(t), -8);
+            DUE.due(at + "slope", x.slope(t), -8);
             return;
         }
-        DUE.due(at + "cheapest", bench.cheapest(t, 1), cost);
+        DUE.due(at + "cheapest", x.cheapest(t, 1), cost);
         int length = 0;
         for (int end : ends) {
             length = Math.max(length, end);
         }
-        DUE.due(at + "plan", bench.plan(t), length);
-        DUE.due(at + "cost", bench.cost(), cost);
+        DUE.due(at + "plan", x.plan(t), length);
+        DUE.due(at + "cost", x.cost(), cost);
         long sum = 0;
         for (int i = 0; i < begins.length; i++) {
-            DUE.due(at + "begin of " + i, bench.planned(i, false), begins[i]);
-            DUE.due(at + "span of " + i, bench.planned(i, true), ends[i] - begins[i]);
+            DUE.due(at + "begin of " + i, x.planned(i, false), begins[i]);
+            DUE.due(at + "span of " + i, x.planned(i, true), ends[i] - begins[i]);
             sum += jobs.get(i).cost(ends[i] - begins[i]);
-            bench.tell(begins[i]);
-            bench.tell(ends[i] - begins[i]);
+            x.tell(begins[i]);
+            x.tell(ends[i] - begins[i]);
         }
         DUE.due(at + "sum of costs", sum, cost);
-        DUE.due(at + "check", bench.check(t), 0);
+        DUE.due(at + "check", x.check(t), 0);
     }
 
     private void compareHurried(int t, int[] begins, int[] ends) {
@@ -128,29 +164,29 @@ public final class BendTest {
             lower |= change > 0 ? 1 << i : 0;
             greater |= change < 0 ? 1 << i : 0;
         }
-        DUE.due(name + " hurried at " + t, bench.hurried(t, false), lower);
-        DUE.due(name + " eased at " + t, bench.hurried(t, true), greater);
+        DUE.due(name + " hurried at " + t, on(1).hurried(t, false), lower);
+        DUE.due(name + " eased at " + t, on(1).hurried(t, true), greater);
     }
 
     /** Slopes, bends and within() by what the document says of them, from cheapest() alone. */
     private void compareBends() {
-        int least = bench.longest(true);
-        int most = bench.longest(false);
+        int least = on(1).longest(true);
+        int most = longest();
         int found = 0;
         for (int t = least; t <= most + 1; t++) {
-            long on = bench.cheapest(t, 1) - bench.cheapest(t + 1, 1);
-            long off = t > least ? bench.cheapest(t - 1, 1) - bench.cheapest(t, 1) : -1;
-            DUE.due(name + " slope at " + t, bench.slope(t), on);
-            if (on != off) {
-                DUE.due(name + " bend " + found, bench.bend(found), t);
+            long fall = on(1).cheapest(t, 1) - on(1).cheapest(t + 1, 1);
+            long fallBefore = t > least ? on(1).cheapest(t - 1, 1) - on(1).cheapest(t, 1) : -1;
+            DUE.due(name + " slope at " + t, on(1).slope(t), fall);
+            if (fall != fallBefore) {
+                DUE.due(name + " bend " + found, on(1).bend(found), t);
                 found++;
             }
         }
-        DUE.due(name + " bends", bench.bends(), found);
-        DUE.due(name + " bend behind all", bench.bend(found), -7);
-        long floor = bench.cheapest(most, 1);
-        long top = bench.cheapest(least, 1);
-        DUE.due(name + " within below all", bench.within(floor - 1), -7);
+        DUE.due(name + " bends", on(1).bends(), found);
+        DUE.due(name + " bend behind all", on(1).bend(found), -7);
+        long floor = on(1).cheapest(most, 1);
+        long top = on(1).cheapest(least, 1);
+        DUE.due(name + " within below all", on(1).within(floor - 1), -7);
         for (int tries = 0; tries < 20; tries++) {
             long sum = floor + (tries == 0 ? 0 : tries == 1 ? top - floor
                 : (long) (random.nextDouble() * (top - floor + 3)));
@@ -160,21 +196,22 @@ public final class BendTest {
 
     private void compareWithin(long sum, int least) {
         int t = least;
-        while (bench.cheapest(t, 1) > sum) {
+        while (on(1).cheapest(t, 1) > sum) {
             t++;
         }
         long above = t;
         long divisor = 1;
         if (t > least) {
-            divisor = bench.slope(t - 1);
-            above = t * divisor - (sum - bench.cheapest(t, 1));
+            divisor = on(1).slope(t - 1);
+            above = t * divisor - (sum - on(1).cheapest(t, 1));
             long common = java.math.BigInteger.valueOf(above)
                 .gcd(java.math.BigInteger.valueOf(divisor)).longValue();
             above /= common;
             divisor /= common;
         }
-        DUE.due(name + " within " + sum, bench.within(sum), above);
-        DUE.due(name + " told(1) of within " + sum, bench.told(1), divisor);
+        BarnBench x = on(2);
+        DUE.due(name + " within " + sum, x.within(sum), above);
+        DUE.due(name + " told(1) of within " + sum, x.told(1), divisor);
     }
 
     /** Spans of d times the size make whole lengths of parts: d times CHEAPEST(n / d). */
@@ -187,9 +224,9 @@ public final class BendTest {
                 copy.before = job.before;
                 larger.add(copy);
             }
-            for (int n = -1; n <= d * bench.longest(false) + 2; n++) {
+            for (int n = -1; n <= d * longest() + 2; n++) {
                 Trial trial = new Trial(larger, n);
-                DUE.due(name + " cheapest(" + n + ", " + d + ")", bench.cheapest(n, d),
+                DUE.due(name + " cheapest(" + n + ", " + d + ")", on(1).cheapest(n, d),
                     trial.isShort ? -8 : trial.cost);
             }
         }

@@ -13,6 +13,7 @@ final class CheckEdges extends Edges {
         wrongSpans();
         wrongBegins();
         aheadOfEnds();
+        toldOrMissing();
         whateverTheseAre();
         behindTheLength();
         firstOfSome();
@@ -173,6 +174,30 @@ final class CheckEdges extends Edges {
         due("of the first of two", check(y, 9, 4, 4, 1, 4, 0, 4), 100);
         due("of the second of two", check(y, 9, 4, 4, 0, 4, 1, 4), 100);
         due("of both in time", check(y, 9, 5, 4, 1, 4, 1, 4), 0);
+    }
+
+    /** The first follows the last of some, whose numbers are all told, or half of them, or none. */
+    private static void toldOrMissing() {
+        for (int last = 1; last < 12; last++) {
+            BarnBench x = many(last + 1, 1, 4);
+            x.after(0, last);
+            for (int heard = 2 * last; heard <= 2 * last + 2; heard++) {
+                // Numbers of an earlier check stand where some are missing, and would make the first one wrong.
+                check(x, 9, filled(2 * last + 2, 9));
+                int[] numbers = new int[heard];
+                for (int i = 1; i < heard; i += 2) {
+                    numbers[i] = 4;
+                }
+                boolean isTold = heard == 2 * last + 2;
+                due("the last is " + last + ", numbers " + heard, check(x, 9, numbers), isTold ? 100 : 100 + last);
+            }
+        }
+    }
+
+    private static int[] filled(int count, int v) {
+        int[] numbers = new int[count];
+        java.util.Arrays.fill(numbers, v);
+        return numbers;
     }
 
     private static void whateverTheseAre() {

@@ -1,11 +1,28 @@
 /** Counts answers that are not the ones that are due. */
 final class Due {
+    /** Far above what a test takes. */
+    private static final long MOST_MILLIS = 300000;
+
     private int wrong = 0;
     private int asked = 0;
     private final String name;
 
     Due(String name) {
         this.name = name;
+        Thread watch = new Thread(this::endIfEndless);
+        watch.setDaemon(true);
+        watch.start();
+    }
+
+    /** A call that fails to end makes the test fail, too. */
+    private void endIfEndless() {
+        try {
+            Thread.sleep(MOST_MILLIS);
+        } catch (InterruptedException stopped) {
+            return;
+        }
+        System.out.println(name + ": a call did not end");
+        Runtime.getRuntime().halt(1);
     }
 
     boolean due(String what, long got, long want) {

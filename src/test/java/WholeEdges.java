@@ -255,21 +255,40 @@ final class WholeEdges extends Edges {
         due("cheapest", x.cheapest(12, 1), 9);
         due("no such task", x.ask(3, 0), BEYOND);
         due("again", x.back(), 3);
-        x = row();
+        backInPlaceOfOthers();
+        backToNoneAndAll();
+    }
+
+    /** Other tasks stand in the places of those that were kept, so that each number must come back. */
+    private static void backInPlaceOfOthers() {
+        int[][] all = {{0, 5, 2, 3, 0, 0}, {1, 6, 6, 0, 0, 0}, {2, 7, 1, 2, 3, 4}, {3, 8, 8, 0, 0, 0},
+            {4, 9, 4, 5, 6, 0}};
+        BarnBench x = new BarnBench();
+        add(x, 0, 5, 2, 3);
+        add(x, 1, 6);
+        add(x, 2, 7, 1, 2, 3, 4);
+        add(x, 3, 8);
+        add(x, 4, 9, 4, 5, 6);
+        x.after(4, 0);
+        x.span(2, 1);
         x.keep();
-        for (int i = 0; i < 5; i++) {
+        for (int i = 0; i < 7; i++) {
             x.undo();
         }
-        add(x, 1, 60);
-        due("fewer were left", x.back(), 3);
-        due("its kind", x.ask(0, 0), 0);
-        due("its e", x.ask(0, 1), 5);
-        due("h of the last", x.ask(2, 2), 2);
-        due("p of the last", x.ask(2, 3), 3);
-        due("k of the last", x.ask(2, 4), 2);
-        due("m of the last", x.ask(2, 5), 4);
-        due("length", x.length(), 15);
-        backToNoneAndAll();
+        for (int task = 0; task < 6; task++) {
+            add(x, task == 2 ? 4 : 2, 60, 50, 40, 30, 20);
+        }
+        inRow(x);
+        due("fewer than stand there", x.back(), 5);
+        for (int task = 0; task < 5; task++) {
+            for (int what = 0; what < 6; what++) {
+                due("task " + task + ", what " + what, x.ask(task, what), all[task][what]);
+            }
+        }
+        due("pairs", x.told(3), 1);
+        due("the pair", x.follows(4, 0), 1);
+        due("the told span", x.span(2, 7), 1);
+        due("another told span", x.span(4, 9), 9);
     }
 
     private static void backToNoneAndAll() {
