@@ -38,7 +38,31 @@ public final class BendTest {
             test.build("large " + seed, 8 + seed % 5, seed % 2 == 0 ? 12 : 60, most);
             test.compareWithReckoning();
         }
+        for (int seed = 0; seed < 300; seed++) {
+            BendTest test = new BendTest(3000 + seed);
+            test.build("cheap " + seed, 5 + seed % 8, 2 + seed % 6, 1 + seed % 3);
+            test.compareWithReckoning();
+        }
+        manyBends();
         DUE.end();
+    }
+
+    /** Far more bends than there are prices, as flow goes back and forth through the pairs. */
+    private static void manyBends() {
+        long[][] numbers = {{47, 3, 47616, 23, 85304}, {42, 1, 3415, 8, 6}, {56, 5, 93221, 19, 47937},
+            {56, 6, 1861, 36, 8424}, {45, 2, 1, 42, 3}, {50, 5, 30310, 13, 29905}, {42, 1, 66478, 18, 43362},
+            {53, 7, 82469, 32, 77915}, {58, 1, 2064, 21, 4908}, {55, 5, 19946, 17, 81585},
+            {52, 0, 19667, 44, 58615}, {47, 0, 50374, 10, 1935}};
+        int[] before = {0, 1, 0, 3, 15, 7, 41, 3, 189, 138, 783, 336};
+        BendTest test = new BendTest(0);
+        test.name = "many bends";
+        for (int i = 0; i < numbers.length; i++) {
+            Job job = new Job(2, numbers[i]);
+            job.before = before[i];
+            test.jobs.add(job);
+        }
+        DUE.due("many bends", test.on(1).bends(), 68);
+        test.compareWithReckoning();
     }
 
     private void build(String newName, int count, int mostSpan, int mostPrice) {
