@@ -43,8 +43,47 @@ public final class BendTest {
             test.build("cheap " + seed, 5 + seed % 8, 2 + seed % 6, 1 + seed % 3);
             test.compareWithReckoning();
         }
+        for (int seed = 0; seed < 200; seed++) {
+            BendTest test = new BendTest(4000 + seed);
+            test.buildBridge("bridge " + seed, 2 + seed % 4, 1 + seed % 4);
+            test.compareWithTrial();
+        }
+        flowOfOneGoesBack();
         manyBends();
         DUE.end();
+    }
+
+    /** Below 4 tasks 0 and 3 are hurried together: the flow of 1 that went by way of task 4 is taken back. */
+    private static void flowOfOneGoesBack() {
+        BendTest test = new BendTest(0);
+        test.name = "flow of one";
+        test.jobs.add(new Job(0, new long[] {5, 1, 1}));
+        test.jobs.add(new Job(0, new long[] {3, 0, 2}));
+        test.jobs.add(new Job(2, new long[] {2, 1, 4, 3, 2}));
+        test.jobs.add(new Job(0, new long[] {5, 0, 1}));
+        test.jobs.add(new Job(0, new long[] {1, 0, 1}));
+        test.layBridge();
+        DUE.due("flow of one: bends", test.on(1).bends(), 4);
+        test.compareWithTrial();
+    }
+
+    /** Tasks 0 and 1 come first, 2 and 3 last, and 4 lies between 0 and 3. */
+    private void layBridge() {
+        jobs.get(4).before = 1;
+        jobs.get(2).before = 1;
+        jobs.get(3).before = 1 << 4 | 1 << 1;
+    }
+
+    private void buildBridge(String newName, int mostSpan, int mostPrice) {
+        name = newName;
+        for (int i = 0; i < 5; i++) {
+            int e = random.nextInt(mostSpan + 1);
+            long[] all = {e, random.nextInt(e + 1), i == 4 ? 1 : random.nextInt(mostPrice + 1),
+                random.nextInt(mostSpan + 1), random.nextInt(3)};
+            int kind = random.nextInt(2) * 2;
+            jobs.add(new Job(kind, java.util.Arrays.copyOf(all, TAKEN[kind])));
+        }
+        layBridge();
     }
 
     /** Far more bends than there are prices, as flow goes back and forth through the pairs. */

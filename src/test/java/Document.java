@@ -43,6 +43,19 @@ final class Document {
         here.addAll(List.of(bare.split(SENTENCE_ENDS)));
     }
 
+    /** The lines of the public face, with single blanks and without what ends them. */
+    List<String> face() {
+        List<String> lines = new ArrayList<>();
+        String all = text();
+        int from = all.indexOf("```java");
+        for (String line : all.substring(from, all.indexOf("```", from + 3)).split("\n")) {
+            if (line.startsWith("    public ")) {
+                lines.add(line.strip().replaceFirst(";$", ""));
+            }
+        }
+        return lines;
+    }
+
     List<String> places() {
         return new ArrayList<>(sentences.keySet());
     }

@@ -7,6 +7,7 @@ import java.nio.file.Files;
 import java.nio.file.Path;
 import java.util.List;
 import java.util.Set;
+import java.util.StringJoiner;
 import java.util.TreeSet;
 import java.util.regex.Matcher;
 import java.util.regex.Pattern;
@@ -24,6 +25,7 @@ public final class LanguageTest {
 
     public static void main(String[] args) throws IOException {
         face();
+        signatures();
         classes();
         words(withoutComments(Files.readString(SOURCE)));
         methodLengths(Files.readAllLines(SOURCE));
@@ -53,6 +55,39 @@ public final class LanguageTest {
         for (Field field : BarnBench.class.getDeclaredFields()) {
             DUE.due("private: " + field, Modifier.isPrivate(field.getModifiers()) ? 1 : 0, 1);
         }
+    }
+
+    /** Each public member as the document writes it, but for the names of parameters, and no other one. */
+    private static void signatures() {
+        Set<String> wanted = new TreeSet<>();
+        for (String line : new Document().face()) {
+            wanted.add(line.replaceAll(" \\w+(?=[,)])", ""));
+        }
+        Set<String> found = new TreeSet<>();
+        for (Method method : BarnBench.class.getDeclaredMethods()) {
+            if (!Modifier.isPrivate(method.getModifiers())) {
+                found.add(written(Modifier.toString(method.getModifiers()) + " " + method.getReturnType()
+                    + " " + method.getName(), method.getParameterTypes()));
+            }
+        }
+        for (Constructor<?> made : BarnBench.class.getDeclaredConstructors()) {
+            found.add(written(Modifier.toString(made.getModifiers()) + " BarnBench", made.getParameterTypes()));
+        }
+        DUE.due("members of the face in the document", wanted.size(), 32);
+        for (String one : wanted) {
+            DUE.due("in the class: " + one, found.contains(one) ? 1 : 0, 1);
+        }
+        for (String one : found) {
+            DUE.due("in the document: " + one, wanted.contains(one) ? 1 : 0, 1);
+        }
+    }
+
+    private static String written(String head, Class<?>[] types) {
+        StringJoiner parameters = new StringJoiner(", ", "(", ")");
+        for (Class<?> type : types) {
+            parameters.add(type.getSimpleName());
+        }
+        return head + parameters;
     }
 
     private static void classes() {
