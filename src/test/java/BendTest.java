@@ -48,22 +48,33 @@ public final class BendTest {
             test.buildBridge("bridge " + seed, 2 + seed % 4, 1 + seed % 4);
             test.compareWithTrial();
         }
-        flowOfOneGoesBack();
+        flowTakenBack();
         manyBends();
         DUE.end();
     }
 
-    /** Below 4 tasks 0 and 3 are hurried together: the flow of 1 that went by way of task 4 is taken back. */
-    private static void flowOfOneGoesBack() {
+    /**
+     * Bridges in which flow is taken back as far as it went at one span, and not further: at an easy span
+     * that is full, at a middle one that is not and one that is, and at a hard one.
+     */
+    private static void flowTakenBack() {
+        bridge("back at a full easy span",
+            new long[][] {{5, 1, 1}, {3, 0, 2}, {2, 1, 4, 3, 2}, {5, 0, 1}, {1, 0, 1}});
+        bridge("back at a middle span",
+            new long[][] {{4, 0, 3, 3, 1}, {3, 0, 2, 2, 1}, {3, 3, 0, 1, 1}, {3, 0, 2}, {2, 0, 1, 1, 3}});
+        bridge("back at a full middle span",
+            new long[][] {{4, 0, 4}, {3, 0, 3, 1, 3}, {6, 0, 3, 3, 2}, {6, 3, 3}, {5, 0, 1, 3, 2}});
+        bridge("back at a hard span",
+            new long[][] {{8, 0, 5, 1, 4}, {2, 0, 5}, {6, 2, 0}, {4, 0, 4, 0, 0}, {2, 0, 0, 0, 1}});
+    }
+
+    private static void bridge(String name, long[][] numbers) {
         BendTest test = new BendTest(0);
-        test.name = "flow of one";
-        test.jobs.add(new Job(0, new long[] {5, 1, 1}));
-        test.jobs.add(new Job(0, new long[] {3, 0, 2}));
-        test.jobs.add(new Job(2, new long[] {2, 1, 4, 3, 2}));
-        test.jobs.add(new Job(0, new long[] {5, 0, 1}));
-        test.jobs.add(new Job(0, new long[] {1, 0, 1}));
+        test.name = name;
+        for (long[] one : numbers) {
+            test.jobs.add(new Job(one.length == 3 ? 0 : 2, one));
+        }
         test.layBridge();
-        DUE.due("flow of one: bends", test.on(1).bends(), 4);
         test.compareWithTrial();
     }
 
